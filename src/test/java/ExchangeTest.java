@@ -225,10 +225,10 @@ public final class ExchangeTest {
             x.put(2, i, 1);
         }
         x.put(2, 100, 1);
-        checks.due("only a would have 65", x.exchange(0, 2, 3), -3);
-        checks.due("nothing taken over by b either", x.size(2), 63);
-        checks.due("only b would have 65", x.exchange(2, 0, 3), -3);
-        checks.due("nothing taken over by a either", x.size(2), 63);
+        checks.due("both would have 65, from 64 and 63", x.exchange(0, 2, 3), -3);
+        checks.due("nothing taken over", x.size(2), 63);
+        checks.due("both would have 65, from 63 and 64", x.exchange(2, 0, 3), -3);
+        checks.due("nothing taken over", x.difference(0, 2), 3);
 
         x = new SampledBanks();
         for (int i = 0; i < 63; i++) {

@@ -1,5 +1,6 @@
 import java.math.BigInteger;
 import java.util.ArrayList;
+import java.util.Arrays;
 import java.util.List;
 import java.util.TreeMap;
 
@@ -306,7 +307,7 @@ final class Model {
             }
         }
         BigInteger[] unknowns = new BigInteger[n];
-        java.util.Arrays.fill(unknowns, FREE);
+        Arrays.fill(unknowns, FREE);
         for (int row = used - 1; row >= 0; row--) {
             BigInteger rest = rows[row][n];
             for (int i = columnOf[row] + 1; i < n; i++) {
