@@ -8,7 +8,7 @@ import java.util.TreeMap;
  * The document read once more, without regard to speed or room: what SampledBanks is held against.
  * It shares no code with it, and fills what the equations leave free with other values.
  */
-final class Model {
+final class Model implements Face {
     private static final BigInteger PRIME = BigInteger.valueOf(2147483647L);
     private static final BigInteger FREE = BigInteger.valueOf(123456789L);
 
@@ -29,7 +29,7 @@ final class Model {
         }
     }
 
-    int put(int bank, int number, int grams) {
+    public int put(int bank, int number, int grams) {
         if (noRecord(bank, number)) {
             return -1;
         }
@@ -40,7 +40,7 @@ final class Model {
         return keep(bank, number, old == null ? 0 : old.version, grams, false);
     }
 
-    int drop(int bank, int number) {
+    public int drop(int bank, int number) {
         if (noRecord(bank, number)) {
             return -1;
         }
@@ -57,7 +57,7 @@ final class Model {
         return version;
     }
 
-    int version(int bank, int number) {
+    public int version(int bank, int number) {
         if (noRecord(bank, number)) {
             return -1;
         }
@@ -65,29 +65,29 @@ final class Model {
         return entry == null ? 0 : entry.dropped ? -entry.version : entry.version;
     }
 
-    int grams(int bank, int number) {
+    public int grams(int bank, int number) {
         if (noRecord(bank, number) || !banks.get(bank).containsKey(number)) {
             return 0;
         }
         return banks.get(bank).get(number).grams;
     }
 
-    int size(int bank) {
+    public int size(int bank) {
         return noBank(bank) ? -1 : banks.get(bank).size();
     }
 
-    int word(int bank, int i) {
+    public int word(int bank, int i) {
         if (noBank(bank) || i < 0 || i >= banks.get(bank).size()) {
             return -1;
         }
         return words(bank).stream().sorted().toList().get(i);
     }
 
-    int sample(int bank, int k) {
+    public int sample(int bank, int k) {
         return noBank(bank) || k < 0 || k > 17 ? -1 : sampleOf(bank, k).intValue();
     }
 
-    int exchange(int a, int b, int m) {
+    public int exchange(int a, int b, int m) {
         if (noPair(a, b) || noReach(m)) {
             return -1;
         }
@@ -117,7 +117,7 @@ final class Model {
         return taken;
     }
 
-    int list(int a, int b) {
+    public int list(int a, int b) {
         if (noPair(a, b)) {
             return -1;
         }
@@ -127,7 +127,7 @@ final class Model {
         return takeOver(a, b, fromA, fromB);
     }
 
-    int settle(int a, int b, int m) {
+    public int settle(int a, int b, int m) {
         if (noPair(a, b) || noReach(m)) {
             return -1;
         }
@@ -138,7 +138,7 @@ final class Model {
         return m == 16 ? list(a, b) : settle(a, b, m > 8 ? 16 : 2 * m);
     }
 
-    int spread(int m) {
+    public int spread(int m) {
         if (noReach(m)) {
             return -1;
         }
@@ -153,7 +153,7 @@ final class Model {
         return all;
     }
 
-    int difference(int a, int b) {
+    public int difference(int a, int b) {
         if (noPair(a, b)) {
             return -1;
         }
@@ -164,15 +164,15 @@ final class Model {
         return onlyA.size() + onlyB.size();
     }
 
-    long sent() {
+    public long sent() {
         return sent;
     }
 
-    int degree(int what) {
+    public int degree(int what) {
         return what == 0 ? up.size() - 1 : what == 1 ? low.size() - 1 : -1;
     }
 
-    int factor(int what, int i) {
+    public int factor(int what, int i) {
         if (i < 0 || i > degree(what) || degree(what) < 0) {
             return -1;
         }
@@ -293,8 +293,9 @@ final class Model {
             BigInteger[] row = rows[pivot];
             rows[pivot] = rows[used];
             rows[used] = row;
+            BigInteger inverse = row[column].modInverse(PRIME);
             for (int other = used + 1; other < n; other++) {
-                BigInteger share = rows[other][column].multiply(row[column].modInverse(PRIME));
+                BigInteger share = rows[other][column].multiply(inverse).mod(PRIME);
                 for (int i = column; i <= n; i++) {
                     rows[other][i] = rows[other][i].subtract(share.multiply(row[i])).mod(PRIME);
                 }
@@ -321,10 +322,10 @@ final class Model {
 
     private static BigInteger value(List<BigInteger> polynomial, BigInteger x) {
         BigInteger value = BigInteger.ZERO;
-        for (int i = 0; i < polynomial.size(); i++) {
-            value = value.add(polynomial.get(i).multiply(x.modPow(BigInteger.valueOf(i), PRIME)));
+        for (int i = polynomial.size() - 1; i >= 0; i--) {
+            value = value.multiply(x).add(polynomial.get(i)).mod(PRIME);
         }
-        return value.mod(PRIME);
+        return value;
     }
 
     private static List<BigInteger> commonDivisor(List<BigInteger> one, List<BigInteger> two) {

@@ -1,55 +1,66 @@
+import java.util.ArrayList;
+import java.util.List;
 import java.util.Random;
 
-/** Runs of 512 calls, the same ones each time, whose answers are held against the model's. */
+/**
+ * Runs of calls, the same ones each time, whose answers are held against the model's. The shorter
+ * ones leave calls enough, of the 512 that an object has, to look at all of it in the end.
+ */
 public final class ModelTest {
-    private static final int RUNS = 60;
-    private static final int CALLS = 512;
+    private static final int RUNS = 160;
+    private static final int LONG_RUN = 512;
+    private static final int SHORT_RUN = 300;
+    private static final int[] LEAST_AND_GREATEST = {1, 16};
     private static final Checks checks = new Checks();
 
-    private final SampledBanks banks = new SampledBanks();
+    private final Banks banks = new Banks();
     private final Model model = new Model();
+    private final List<Face.Call> calls = new ArrayList<>();
     private final Random random;
     private final int run;
     private final int numbers;
-    private final int putsInTen;
+    private final int changesInTen;
 
     private ModelTest(int run) {
         this.run = run;
         random = new Random(run);
-        numbers = new int[] {6, 25, 66, 90, 400, 10000}[run % 6];
-        putsInTen = 3 + run % 5;
+        numbers = new int[] {2, 6, 25, 66, 68, 90, 400, 10000}[run % 8];
+        changesInTen = 3 + run % 7;
     }
 
     public static void main(String[] args) {
         for (int run = 0; run < RUNS && !checks.isWrong(); run++) {
-            new ModelTest(run).go();
+            new ModelTest(run).go(run % 3 == 0 ? LONG_RUN : SHORT_RUN);
         }
         checks.finish();
     }
 
-    private void go() {
-        for (int call = 0; call < CALLS && !checks.isWrong(); call++) {
-            if (random.nextInt(10) < putsInTen) {
+    private void go(int length) {
+        while (calls.size() < length && !checks.isWrong()) {
+            if (random.nextInt(10) < changesInTen) {
                 change();
             } else if (random.nextInt(2) == 0) {
                 equalise();
-                lookAtParts();
+            } else if (random.nextInt(2) == 0) {
+                lookAtBanks();
             } else {
-                look();
+                lookAtParts();
             }
         }
-        lookAtAll();
+        if (length == SHORT_RUN) {
+            State end = State.after(x -> calls.forEach(call -> call.on(x)));
+            checks.same("the end of run " + run, end, State.of(model));
+        }
     }
 
     private void change() {
         int bank = bank();
         int number = number();
+        int grams = random.nextInt();
         if (random.nextInt(5) == 0) {
-            due("drop(" + bank + ", " + number + ")", banks.drop(bank, number), model.drop(bank, number));
+            ask("drop(" + bank + ", " + number + ")", x -> x.drop(bank, number));
         } else {
-            int grams = random.nextInt();
-            due("put(" + bank + ", " + number + ", " + grams + ")",
-                    banks.put(bank, number, grams), model.put(bank, number, grams));
+            ask("put(" + bank + ", " + number + ", " + grams + ")", x -> x.put(bank, number, grams));
         }
     }
 
@@ -59,51 +70,42 @@ public final class ModelTest {
         int m = reach();
         String args = "(" + a + ", " + b + ", " + m + ")";
         switch (random.nextInt(12)) {
-            case 0 -> due("list" + args, banks.list(a, b), model.list(a, b));
-            case 1, 2 -> due("settle" + args, banks.settle(a, b, m), model.settle(a, b, m));
-            case 3 -> due("spread" + args, banks.spread(m), model.spread(m));
-            default -> due("exchange" + args, banks.exchange(a, b, m), model.exchange(a, b, m));
+            case 0 -> ask("list" + args, x -> x.list(a, b));
+            case 1, 2 -> ask("settle" + args, x -> x.settle(a, b, m));
+            case 3 -> ask("spread(" + m + ")", x -> x.spread(m));
+            default -> ask("exchange" + args, x -> x.exchange(a, b, m));
         }
-        due("sent()", banks.sent(), model.sent());
     }
 
-    private void look() {
+    private void lookAtBanks() {
         int bank = bank();
         int other = bank();
         int number = number();
         int i = random.nextInt(70) - 3;
         int k = random.nextInt(20) - 1;
-        String args = "(" + bank + ", " + other + " " + number + " " + i + " " + k + ")";
         switch (random.nextInt(6)) {
-            case 0 -> due("version" + args, banks.version(bank, number), model.version(bank, number));
-            case 1 -> due("grams" + args, banks.grams(bank, number), model.grams(bank, number));
-            case 2 -> due("size" + args, banks.size(bank), model.size(bank));
-            case 3 -> due("word" + args, banks.word(bank, i), model.word(bank, i));
-            case 4 -> due("sample" + args, banks.sample(bank, k), model.sample(bank, k));
-            default -> due("difference" + args, banks.difference(bank, other), model.difference(bank, other));
+            case 0 -> ask("version(" + bank + ", " + number + ")", x -> x.version(bank, number));
+            case 1 -> ask("grams(" + bank + ", " + number + ")", x -> x.grams(bank, number));
+            case 2 -> ask("size(" + bank + ")", x -> x.size(bank));
+            case 3 -> ask("word(" + bank + ", " + i + ")", x -> x.word(bank, i));
+            case 4 -> ask("sample(" + bank + ", " + k + ")", x -> x.sample(bank, k));
+            default -> ask("difference(" + bank + ", " + other + ")", x -> x.difference(bank, other));
         }
     }
 
     private void lookAtParts() {
-        for (int what = -1; what <= 2; what++) {
-            due("degree(" + what + ")", banks.degree(what), model.degree(what));
-            for (int i = -1; i <= model.degree(what) + 1; i++) {
-                due("factor(" + what + ", " + i + ")", banks.factor(what, i), model.factor(what, i));
-            }
+        int what = random.nextInt(20) == 0 ? random.nextInt(6) - 2 : random.nextInt(2);
+        int i = random.nextInt(6) == 0 ? random.nextInt(20) - 1 : random.nextInt(4);
+        switch (random.nextInt(4)) {
+            case 0 -> ask("sent()", Face::sent);
+            case 1 -> ask("degree(" + what + ")", x -> x.degree(what));
+            default -> ask("factor(" + what + ", " + i + ")", x -> x.factor(what, i));
         }
     }
 
-    private void lookAtAll() {
-        for (int bank = 0; bank < 4; bank++) {
-            due("size(" + bank + ")", banks.size(bank), model.size(bank));
-            for (int i = 0; i < model.size(bank); i++) {
-                int word = model.word(bank, i);
-                int number = word / 1024;
-                due("word(" + bank + ", " + i + ")", banks.word(bank, i), word);
-                due("version of " + number, banks.version(bank, number), model.version(bank, number));
-                due("grams of " + number, banks.grams(bank, number), model.grams(bank, number));
-            }
-        }
+    private void ask(String name, Face.Call call) {
+        calls.add(call);
+        checks.due("run " + run + ", call " + calls.size() + ": " + name, call.on(banks), call.on(model));
     }
 
     private int bank() {
@@ -115,10 +117,10 @@ public final class ModelTest {
     }
 
     private int reach() {
-        return random.nextInt(40) == 0 ? random.nextInt(21) - 2 : 1 + random.nextInt(16);
-    }
-
-    private void due(String call, long got, long want) {
-        checks.due("run " + run + ": " + call, got, want);
+        return switch (random.nextInt(20)) {
+            case 0 -> random.nextInt(21) - 2;
+            case 1, 2, 3 -> LEAST_AND_GREATEST[random.nextInt(2)];
+            default -> 1 + random.nextInt(16);
+        };
     }
 }
