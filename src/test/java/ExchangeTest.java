@@ -501,7 +501,7 @@ public final class ExchangeTest {
         checks.refused("factor 0 of LOW", story, x -> x.factor(1, 0), PRIME - 3075);
     }
 
-    /** "all is reckoned modulo 2147483647": what is less than 0, or more, comes round. */
+    /** "NUMBERS of the FIELD are 0 .. 2147483646; all is reckoned modulo 2147483647". */
     private static void factorsWrapAround() {
         Banks x = new Banks();
         x.put(0, 0, 1);
@@ -516,6 +516,24 @@ public final class ExchangeTest {
             words[i] = (9984 + i) * 1024 + 3;
         }
         checks.parts("sixteen great words", story, NO_ZEROS, words);
+        // Found by search: two numbers of a and one of b, that UP does not reach with one point.
+        checkOnlyFactor(108, 9652, 3487, 0);
+        checkOnlyFactor(119, 8734, 704, 1);
+        checkOnlyFactor(114, 9171, 7376, PRIME - 1);
+    }
+
+    private static void checkOnlyFactor(int one, int two, int inB, long factor) {
+        for (int what = 0; what < 2; what++) {
+            Banks x = new Banks();
+            Puts.all(x, 0, one, two);
+            Puts.all(x, 2, inB);
+            int a = 2 * what;
+            checks.due("exchange", x.exchange(a, 2 - a, 1), Face.FAILED);
+            checks.due("degree", x.degree(what), 1);
+            checks.due("the factor by search", x.factor(what, 0), factor);
+            checks.due("the highest factor", x.factor(what, 1), 1);
+            checks.due("sent", x.sent(), 4 + 1);
+        }
     }
 
     /**

@@ -70,6 +70,7 @@ public final class LookAlikeTest {
     public static void main(String[] args) {
         alikeWhereTheySay();
         noFraction();
+        foundAllTheSame();
         everyPointIsLookedAt();
         everyPointIsLookedAtWithAWordMore();
         noPointBehindIsLookedAt();
@@ -79,6 +80,7 @@ public final class LookAlikeTest {
         someZerosThatAreNoWords();
         zeroThatBothHave();
         oneBankAloneIsTooGreat();
+        spreadingOfLookAlikes();
         checks.finish();
     }
 
@@ -96,29 +98,61 @@ public final class LookAlikeTest {
     }
 
     /**
-     * "(there may be none: it fails ...)": a's sample over b's is the same at points 0 and 1, but
+     * "(there may be none: it fails ...)": a's sample over b's is the same at the first points, but
      * not 1; so U and L would be the same in all but their highest factor. Nothing is found then.
      */
     private static void noFraction() {
+        Pair atTwoPoints = new Pair(new int[] {2, 768}, new int[] {3, 512});
+        Pair atFourPoints = new Pair(
+                new int[] {7305, 5002, 9302, 4786, 4661, 4858, 8356, 633, 5988, 7170, 2132, 2368,
+                    5854, 2967, 6744, 3191, 7446},
+                new int[] {1782, 9662, 1334, 4831, 7102, 2648, 6477, 2906, 1450, 4478, 1889, 7362,
+                    155, 6586, 5168, 2549, 4691});
+        checkNoFraction(atTwoPoints, 3);
+        checkNoFraction(atFourPoints, 7);
+        Banks x = new Banks();
+        atTwoPoints.tell(x);
+        checks.due("settle goes on", x.settle(0, 2, 3), 4);
+        checks.due("sent", x.sent(), 6 + 9 + 4 + 8);
+    }
+
+    /** There are none with 2 .. mostReach; with 1, and behind that, there are some again. */
+    private static void checkNoFraction(Pair pair, int mostReach) {
         Face.Story story = x -> {
             x.put(1, 9, 9);
             x.exchange(1, 3, 1);
-            Puts.all(x, 0, 2, 768);
-            Puts.all(x, 2, 3, 512);
+            pair.tell(x);
         };
-        for (int m = 2; m <= 3; m++) {
+        int[] earlier = {9 * 1024 + 3};
+        for (int m = 2; m <= mostReach; m++) {
             int reach = m;
             checks.findsNone("none with " + m, story, x -> x.exchange(0, 2, reach), Face.FAILED, m + 3);
             checks.findsNone("none with " + m, story, x -> x.exchange(2, 0, reach), Face.FAILED, m + 3);
+            checks.parts("none with " + m, story.then(x -> x.exchange(0, 2, reach)), earlier, NO_ZEROS);
         }
         checks.sendsInVain("found with 1", story, x -> x.exchange(0, 2, 1), Face.FAILED, 4);
         checks.parts("found with 1", story.then(x -> x.exchange(0, 2, 1)), NO_ZEROS, NO_ZEROS);
-        checks.parts("none", story.then(x -> x.exchange(0, 2, 2)), new int[] {9 * 1024 + 3}, NO_ZEROS);
-        Banks x = new Banks();
-        story.tell(x);
-        long sent = x.sent();
-        checks.due("settle goes on", x.settle(0, 2, 3), 4);
-        checks.due("sent", x.sent() - sent, 6 + 9 + 4 + 8);
+        checks.likeModel("found again", story.then(x -> x.exchange(0, 2, mostReach + 1)));
+        checks.likeModel("found again", story.then(x -> x.exchange(2, 0, mostReach + 1)));
+    }
+
+    /** Samples whose quotient is the same at points 0 and 1 do not keep U and L from being found. */
+    private static void foundAllTheSame() {
+        Pair pair = new Pair(new int[] {0}, new int[] {1, 1536});
+        int[] wordsA = {2};
+        int[] wordsB = {1026, 1536 * 1024 + 2};
+        for (int m = 3; m <= 16; m++) {
+            int reach = m;
+            for (int way = 0; way < 2; way++) {
+                int a = 2 * way;
+                Banks x = new Banks();
+                pair.tell(x);
+                checks.due("exchange with " + m, x.exchange(a, 2 - a, m), 3);
+                checks.due("sent", x.sent(), m + 3 + 3 + 6);
+            }
+            checks.parts("with " + m, pair.then(x -> x.exchange(0, 2, reach)), wordsA, wordsB);
+            checks.parts("with " + m, pair.then(x -> x.exchange(2, 0, reach)), wordsB, wordsA);
+        }
     }
 
     /**
@@ -300,6 +334,27 @@ public final class LookAlikeTest {
             checks.parts("both ways", story.then(x -> x.exchange(0, 2, 2)),
                     new int[] {NEW_WORD}, new int[] {2702 * 1024 + 4});
         }
+    }
+
+    /**
+     * Promise 12: "0 and 2". Banks 2 and 3 look alike, so they are not made equal before that; bank
+     * 0 has all of 3 and two records more, which takes a listing with 2 but none with 3.
+     */
+    private static void spreadingOfLookAlikes() {
+        Face.Story story = x -> {
+            Puts.all(x, 2, AT_0_1_2.inA);
+            Puts.all(x, 0, AT_0_1_2.inB);
+            x.list(0, 3);
+            Puts.all(x, 0, NEW, NEW + 1);
+        };
+        Banks x = new Banks();
+        story.tell(x);
+        checks.due("2 and 3 see no difference", x.exchange(2, 3, 1), 0);
+        checks.due("spread", x.spread(1), 10 + 0 + 18 + 10 + 8);
+        for (int bank = 0; bank < 4; bank++) {
+            checks.due("size", x.size(bank), 18);
+        }
+        checks.likeModel("spread", story.then(y -> y.spread(1)));
     }
 
     private static Pair without(Pair pair, int[] notInA, int[] notInB) {

@@ -493,5 +493,8 @@ public final class RecordsTest {
         checks.due("64 equal words, with other grams", x.difference(1, 3), 0);
         Puts.range(x, 2, 0, 64);
         checks.due("64 and 64 other words", x.difference(2, 3), 128);
+        x.put(0, 9999, 1);
+        checks.due("a number behind all of 64", x.difference(0, 2), 65);
+        checks.due("the other way", x.difference(2, 0), 65);
     }
 }

@@ -14,6 +14,8 @@ public final class SpreadTest {
         fullAtTheFirst();
         fullAtTheSecond();
         fullAtTheThird();
+        partsOfTheOneThatIsTooGreat();
+        partsOfTheFourth();
         checks.finish();
     }
 
@@ -163,5 +165,44 @@ public final class SpreadTest {
         checks.due("size of 1", x.size(1), 32);
         checks.due("size of 2", x.size(2), 33);
         checks.due("size of 3", x.size(3), 33);
+    }
+
+    /** The pairs in their order: UP is of the first named, when an exchange is too great. */
+    private static void partsOfTheOneThatIsTooGreat() {
+        int[][] pairs = {{0, 1}, {2, 3}, {0, 2}};
+        for (int[] pair : pairs) {
+            int a = pair[0];
+            int b = pair[1];
+            Face.Story story = x -> {
+                Puts.range(x, a, 0, 63);
+                x.list(a, b);
+                x.put(a, 9000, 1);
+                x.put(b, 9001, 1);
+                if (b == 2) {
+                    x.list(0, 1);
+                    x.list(2, 3);
+                }
+            };
+            int[] up = {9000 * 1024 + 2 + a % 2};
+            int[] low = {9001 * 1024 + 2 + b % 2};
+            long before = b == 1 ? 0 : b == 3 ? 5 : 5 + 5;
+            String name = "spread, too great in " + a + " and " + b;
+            checks.sendsInVain(name, story, x -> x.spread(2), Face.FULL, before + 5 + 2);
+            checks.parts(name, story.then(x -> x.spread(2)), up, low);
+        }
+    }
+
+    /** "then 2 and 3": as 0 and 1 are listed in the end, UP and LOW are still those of 2 and 3. */
+    private static void partsOfTheFourth() {
+        Face.Story story = x -> {
+            x.put(0, 9000, 1);
+            Puts.range(x, 2, 0, 18);
+            x.spread(16);
+        };
+        Banks x = new Banks();
+        story.tell(x);
+        checks.due("size", x.size(1), 19);
+        checks.due("sent", x.sent(), (19 + 3) + (19 + 36) + (19 + 38) + (19 + 3) + (19 + 40));
+        checks.parts("of 2 and 3", story, new int[] {9000 * 1024 + 2}, new int[] {});
     }
 }
