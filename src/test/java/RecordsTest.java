@@ -378,7 +378,7 @@ public final class RecordsTest {
         checks.due("its sample", x.sample(1, 0), 1073741824 - 10239977);
         checks.due("its sample at the last point", x.sample(1, 17), 1073741841 - 10239977);
         checks.due("it goes over", x.exchange(1, 3, 1), 1);
-        checks.due("LOW or UP is of it", x.factor(0, 0), 2147483647 - 10239977);
+        checks.due("factor of UP", x.factor(0, 0), 2147483647 - 10239977);
         checks.due("the greatest word again", x.word(3, 0), 10239977);
 
         x = new Banks();
