@@ -20,6 +20,7 @@ public final class RecordsTest {
 
     public static void main(String[] args) {
         newObject();
+        objectsShareNothing();
         noSuchBank();
         noSuchNumber();
         leastAndGreatestNumber();
@@ -61,6 +62,26 @@ public final class RecordsTest {
             checks.due("grams in a new bank", x.grams(bank, 0), 0);
             checks.due("drop in a new bank", x.drop(bank, 0), Face.NONE);
         }
+    }
+
+    /** What one object is told changes nothing in another one, be it made before or afterwards. */
+    private static void objectsShareNothing() {
+        Banks before = new Banks();
+        Puts.all(before, 0, 5, 6);
+        before.exchange(0, 1, 2);
+        Banks after = new Banks();
+        checks.due("size in the new one", after.size(0) + after.size(1), 0);
+        checks.due("sent by the new one", after.sent(), 0);
+        checks.due("degree in the new one", after.degree(0), 0);
+        Puts.all(after, 1, 7);
+        after.settle(0, 1, 1);
+        checks.due("size in the old one", before.size(1), 2);
+        checks.due("version in the old one", before.version(1, 7), 0);
+        checks.due("sent by the old one", before.sent(), 5 + 2 + 4);
+        checks.due("degree of UP in the old one", before.degree(0), 2);
+        checks.due("factor of UP in the old one", before.factor(0, 0), 5122 * 6146);
+        checks.due("degree of LOW in the old one", before.degree(1), 0);
+        checks.due("degree of LOW in the new one", after.degree(1), 1);
     }
 
     /** "BANKS are 0 .. 3", "BAD when there is no such bank". */
