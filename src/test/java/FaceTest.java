@@ -6,7 +6,7 @@ import java.util.Arrays;
 import java.util.Set;
 import java.util.TreeSet;
 
-/** The class has the document's face and nothing else that others can see, and no static state. */
+/** The class has the document's face and nothing else that others can see; static fields are final. */
 public final class FaceTest {
     private static final Set<String> FACE = new TreeSet<>(Arrays.asList(
             "int put(int,int,int)", "int drop(int,int)", "int version(int,int)",
@@ -23,10 +23,10 @@ public final class FaceTest {
         methodsOf(face);
         constantsOf(face);
         constructorOf(face);
-        noStaticState(face);
+        staticFieldsAreFinal(face);
         for (Class<?> inside : face.getDeclaredClasses()) {
             classInside(inside);
-            noStaticState(inside);
+            staticFieldsAreFinal(inside);
         }
         checks.finish();
     }
@@ -71,11 +71,11 @@ public final class FaceTest {
         checks.holds("it is public", Modifier.isPublic(constructors[0].getModifiers()));
     }
 
-    private static void noStaticState(Class<?> any) {
+    private static void staticFieldsAreFinal(Class<?> any) {
         for (Field field : any.getDeclaredFields()) {
             int modifiers = field.getModifiers();
-            boolean isState = Modifier.isStatic(modifiers) && !Modifier.isFinal(modifiers);
-            checks.holds(field + " is no static state", !isState);
+            boolean isStatic = Modifier.isStatic(modifiers);
+            checks.holds(field + " is final if static", !isStatic || Modifier.isFinal(modifiers));
         }
     }
 
